@@ -505,6 +505,10 @@ public final class PromiseTest {
         terms("12", x, 3, 24, 12, 0);
         due("undone", x.count(8), 1);
         due("empty", x.work(3), FAULT);
+        work(x, 0, "((((");
+        due("no brackets are left open", work(x, 0, "(((1)))"), 24);
+        due("nor letters", work(x, 0, "t(1"), FAULT - 3);
+        x.undo();
         x.type('5');
         x.undo();
         due("undo leaves THE TAPE", x.type('6'), 2);
@@ -642,6 +646,9 @@ public final class PromiseTest {
         due("above", x.count(9), BAD);
         x.length(11);
         x.make(0, 0, 0);
+        x.change(0, CUT, 1);
+        due("one of one term", x.count(1), 1);
+        x.undo();
         x.length(12);
         x.make(2, 0, 0);
         x.length(13);
@@ -722,6 +729,15 @@ public final class PromiseTest {
         x.change(0, CUT, 10);
         due("three at least", x.found(0, 4, 2), NONE);
         due("three at least", x.found(0, 4, 0), 4002);
+        x.make(0, 0, 0);
+        due("r is less than m", x.found(0, 1, 0), 2102);
+        x.make(0, 4, 23);
+        due("m of 8", x.found(0, 8, 6), 8602);
+        due("the last m and r", x.found(0, 8, 7), NONE);
+        x.change(0, FOLD, 7);
+        due("the last m and r", x.found(0, 8, 7), 8707);
+        x.make(0, 4, 5);
+        x.change(0, CUT, 10);
         x.change(0, FOLD, 0);
         x.change(0, CUT, 3);
         due("just three", x.found(0, 1, 0), 1002);
@@ -828,6 +844,12 @@ public final class PromiseTest {
         row(x, 0, 1, 99, 99, 99, 1, 8, 2, 8);
         due("from item 3 on", x.told(0, 1, 3, 2, 1), 2);
         due("from item 5 on", x.told(0, 1, 5, 1, 0), 8);
+        row(x, 0, 1, 1, 2, 11, 2, 7, 3);
+        due("n pairs alone", x.told(0, 1, 0, 2, 0), 4);
+        due("n pairs alone", x.told(0, 1, 0, 2, 1), 11);
+        due("n pairs alone", x.told(0, 1, 0, 2, 2), 3);
+        x.quotient(0, 0, 1, 0, 2);
+        terms("n pairs alone", x, 0, 24, 1, -2, -1, 2, 1, 2, -2, 0, -2, -2, 1);
     }
 
     private static void promise20ToldRefused() {
@@ -925,6 +947,9 @@ public final class PromiseTest {
         due("TIMES", x.wrought(0, 0, 1, 2, 0, 3), 1 << TIMES);
         due("none", x.wrought(0, 0, 1, 2, 0, 4), 0);
         x.make(1, 4, 0);
+        row(x, 1, 2, 1, 2, 0, 0, 2, 0, 0, 0, 0, 2, 0, 0, 5);
+        due("12", x.wrought(0, 1, 1, 2, 0, 12), 1 << TIMES | 1 << OVER);
+        due("12 others", x.wrought(0, 1, 1, 2, 1, 12), 0);
         x.change(1, CUT, 3);
         row(x, 1, 0, 1, 2, 0, 0, 2);
         due("it has so many", x.wrought(0, 1, 1, 0, 0, 3), 1 << TIMES | 1 << OVER);
@@ -993,8 +1018,10 @@ public final class PromiseTest {
         due("held", x.item(0, 0, 0, 1), INDEX);
         due("40", x.sheet(0, 3, 40), 40);
         due("item 39", x.item(0, 3, 39, 5), 1);
+        due("item 0", x.item(0, 3, 0, 5), 1);
         due("a new row", x.sheet(0, 3, 40), 40);
         holds(x, 0, 3, 38, 0, 0);
+        holds(x, 0, 3, 0, 0, 0);
         due("shorter", x.sheet(0, 1, 3), 3);
         due("another lane", x.item(0, 3, 0, 5), CAST);
         due("behind", x.item(0, 1, 3, 5), INDEX);
