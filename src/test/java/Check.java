@@ -16,6 +16,10 @@ final class Check {
         }
     }
 
+    int seen() {
+        return seen;
+    }
+
     void holds(String what, boolean is) {
         due(what, is ? 1 : 0, 1);
     }
