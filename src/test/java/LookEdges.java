@@ -103,7 +103,8 @@ final class LookEdges extends Edges {
                 due("p(7 n + 5) by 7", x.found(0, 6, 0), 7507);
                 due("M rises last", x.found(1, 1, 0), 1002);
                 due("r ahead of m", x.found(2, 2, 0), 2002);
-                due("then the next m, from r 0 on", x.found(2, 2, 1), 3102);
+                due("then the next m, where r 0 fails", x.found(2, 2, 1), 3102);
+                due("then the next m, from r 0 on", of("q(5)").found(0, 2, 1), 3002);
                 due("none behind the last", x.found(2, 8, 7), NONE);
                 x.change(3, CUT, 6);
                 due("2: three of 6", x.found(3, 2, 0), 2002);

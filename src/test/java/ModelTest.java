@@ -44,6 +44,10 @@ public final class ModelTest {
 
     private void same(String call, int got, int want, int... arguments) {
         calls++;
+        if (calls > CALLS) {
+            // A step may go further, but what is answered then is free.
+            return;
+        }
         String told = call + Arrays.toString(arguments);
         trail.add(told + " " + got);
         if (got != want) {
