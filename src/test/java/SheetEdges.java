@@ -345,6 +345,16 @@ final class SheetEdges extends Edges {
     }
 
     private void promise20() {
+        promise(20, "Of a QUOTIENT by n pairs of a SHEET taken as a row of a LANE", () -> {
+            // ahead of the pairs and behind them stand others, which don't count
+            EtaSeries x = new EtaSeries();
+            row(x, 0, INTS, 7, 5, 1, 2, 11, 2, 7, 3);
+            due("weight", x.told(0, INTS, 2, 2, 0), 4);
+            due("level", x.told(0, INTS, 2, 2, 1), 11);
+            due("bound", x.told(0, INTS, 2, 2, 2), 3);
+            due("of one pair more", x.told(0, INTS, 2, 3, 0), 7);
+            due("of one pair more", x.told(0, INTS, 2, 3, 1), NONE);
+        });
         promise(20, "from item i on", () -> {
             EtaSeries x = new EtaSeries();
             row(x, 0, SHORTS, 99, 99, 99, 1, 8, 2, 8);
@@ -389,7 +399,8 @@ final class SheetEdges extends Edges {
     private void promise21() {
         promise(21, "A SERIES becomes such a QUOTIENT: how many TERMS.", () -> {
             EtaSeries x = of(4, "5");
-            row(x, 0, BYTES, 7, 7, 1, -1);
+            // ahead of the pair and behind it stand others, which don't count
+            row(x, 0, BYTES, 2, 7, 1, -1, 3, 7);
             due("how many", x.quotient(3, 0, BYTES, 2, 1), 4);
             series("partitions", x, 3, 1, 1, 2, 3);
             due("that one alone", x.count(1), 9);
