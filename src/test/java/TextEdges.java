@@ -148,6 +148,9 @@ final class TextEdges extends Edges {
             fault("e", 1);
             fault("e(", 2);
             fault("e()", 2);
+            // 0 would do for q, but it must stand there
+            fault("q()", 2);
+            fault("q( )", 3);
             fault("e(1", 3);
             fault("e1", 1);
             fault("e(-1)", 2);
