@@ -46,8 +46,7 @@ public final class EtaSeries {
     private final Shelf keptNow = new Shelf();
     private final Past keptPast = new Past();
     private boolean kept = false;
-    private final Tape tape = new Tape();
-    private final Mill mill = new Mill(tape);
+    private final Mill mill = new Mill();
     private final Leaf[] leaves = new Leaf[FOUR];
     // What a call makes stands here until it is sure that nothing is refused.
     private final Row made = new Row();
@@ -125,15 +124,15 @@ public final class EtaSeries {
         if (letter < 32 || letter > 126) {
             return BAD;
         }
-        return tape.write(letter) ? tape.size : FULL;
+        return mill.tape.write(letter) ? mill.tape.size : FULL;
     }
 
     public int work(int series) {
         if (!isOneOfFour(series)) {
             return BAD;
         }
-        int fault = tape.parse();
-        tape.size = 0;
+        int fault = mill.tape.parse();
+        mill.tape.size = 0;
         if (fault != FINE) {
             return fault;
         }
@@ -937,9 +936,9 @@ public final class EtaSeries {
         }
     }
 
-    /** Works out texts without FAULT, and quotients. At each depth of brackets it has own rows. */
+    /** Holds THE TAPE; works out texts without FAULT, and quotients. At each depth of brackets it has own rows. */
     private static final class Mill {
-        private final Tape text;
+        private final Tape tape = new Tape();
         private final Row[] sums = new Row[MOST_OPEN + 1];
         private final Row[] parts = new Row[MOST_OPEN + 1];
         private final Row[] atoms = new Row[MOST_OPEN + 1];
@@ -950,8 +949,7 @@ public final class EtaSeries {
         private int brackets = NONE;
         private int letter = NONE;
 
-        private Mill(Tape tape) {
-            text = tape;
+        private Mill() {
             for (int k = 0; k <= MOST_OPEN; k++) {
                 sums[k] = new Row();
                 parts[k] = new Row();
@@ -977,7 +975,7 @@ public final class EtaSeries {
             int trouble = workPart(depth);
             sums[depth].take(parts[depth]);
             for (int turn = 0; turn < MOST_LETTERS && trouble == FINE; turn++) {
-                int sign = text.signAt(place);
+                int sign = tape.signAt(place);
                 if (sign != '+' && sign != '-') {
                     break;
                 }
@@ -994,7 +992,7 @@ public final class EtaSeries {
             int trouble = workPower(depth);
             parts[depth].take(atoms[depth]);
             for (int turn = 0; turn < MOST_LETTERS && trouble == FINE; turn++) {
-                int sign = text.signAt(place);
+                int sign = tape.signAt(place);
                 if (sign != '*' && sign != '/') {
                     break;
                 }
@@ -1009,17 +1007,17 @@ public final class EtaSeries {
 
         private int workPower(int depth) {
             int trouble = workAtom(depth);
-            if (trouble != FINE || text.signAt(place) != '^') {
+            if (trouble != FINE || tape.signAt(place) != '^') {
                 return trouble;
             }
-            trouble = joined.becomePower(atoms[depth], text.valueAt(place), step);
+            trouble = joined.becomePower(atoms[depth], tape.valueAt(place), step);
             place++;
             return finish(trouble, atoms[depth], '^', depth);
         }
 
         private int workAtom(int depth) {
-            int sign = text.signAt(place);
-            int value = text.valueAt(place);
+            int sign = tape.signAt(place);
+            int value = tape.valueAt(place);
             place++;
             if (sign == '(') {
                 int trouble = workSum(depth + 1);

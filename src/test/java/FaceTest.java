@@ -26,7 +26,7 @@ public final class FaceTest {
         "NULL=-1000011", "CAST=-1000012", "INDEX=-1000013", "SIZE=-1000014"};
     private static final String[] BARRED = {
         "throw", "throws", "try", "catch", "synchronized", "assert", "import", "package", "hashCode", "toString",
-        "Exact", "double", "float", "native", "volatile", "transient", "var", "Object", "Thread", "Random"};
+        "\\w*Exact", "double", "float", "native", "volatile", "transient", "var", "Object", "Thread", "Random"};
 
     private static final Check CHECK = new Check("FaceTest");
 
@@ -85,6 +85,10 @@ public final class FaceTest {
                 CHECK.holds(f + " is no static state", !fixed || Modifier.isFinal(f.getModifiers()));
             }
             CHECK.holds(inside + " has " + fields + " fields", fields <= 20);
+            // So that no constructor can hand a part of the object that it makes to another one.
+            for (Constructor<?> made : inside.getDeclaredConstructors()) {
+                CHECK.holds(made + " takes nothing", made.getParameterCount() == 0);
+            }
         }
     }
 
